@@ -1369,9 +1369,9 @@ public final class AnsweredByTheDrowned {
             return place >= 0 && place < elements.length ? elements[place] : 0L;
         }
 
-        /** NONE: there is no such element. */
+        /** NONE: there is no such element; so it is where no ROW is, whose size is 0. */
         private int placeOf(int s, int i) {
-            return holdsRow(s) && isWithin(i, 0, sizeOf(s) - 1) ? s * MOST_STEPS + i : NONE;
+            return isWithin(i, 0, sizeOf(s) - 1) ? s * MOST_STEPS + i : NONE;
         }
 
         private static long lowestBits(int sort, long v) {

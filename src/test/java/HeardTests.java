@@ -177,6 +177,8 @@ public final class HeardTests {
         loops("law 2 3; ring g", 0, 0, 0, 1, 1);
         loops("law 2 1; ring gsg", 0, 1, 1);
         loops("law 4 2; ring gs", 1, 0, 0, 1, 0, 0, 1);
+        loops("law 4 2; ring sg", 0, 0, 1, 0, 0, 1);
+        loops("law 4 3; ring sgssg", 0, 1, 0, 1, 0);
         loops("law 5 1; ring gsgg", 2, 1, 1, 2, 1, 1, 2);
         AnsweredByTheDrowned x = Checks.of("law 0 0; law 5 5; use 1; ring ssss");
         c.due("loop(60)", x.loop(60), 0);
@@ -244,6 +246,7 @@ public final class HeardTests {
         c.due("gggg by a law at depth 1", Checks.of("law 0 0; depth 1; ring gggg").flip(), 0);
         AnsweredByTheDrowned x = Checks.of("law 1 0; depth 0; ring sgggs");
         c.due("sgggs by an echo at depth 0", x.flip(), 2);
+        c.due("a stroke that keeps a counter", Checks.of("law 4 1; depth 0; ring sgggg").flip(), 0);
         c.due("nothing is changed", Checks.bits(5, x::step), 0b10001);
         c.refused("flip() of no steps", made("law 0 0"), y -> y.flip(), -5);
     }

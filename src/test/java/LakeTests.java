@@ -149,6 +149,9 @@ public final class LakeTests {
         c.due("status(1)", x.status(1), 3);
         c.due("forty steps", Checks.read(x, "still; ring " + FORTY), 2);
         c.due("status(4)", x.status(4), 40);
+        c.due("the least numbers", Checks.read(x, "use 0; depth 0; miss 0; person 1"), 4);
+        c.due("status(1)", x.status(1), 0);
+        c.due("status(3)", x.status(3), 0);
         c.due("refusals", x.status(12), 0);
     }
 
@@ -184,6 +187,10 @@ public final class LakeTests {
         fault("", "laws 0 0", 0);
         fault("", "la", 0);
         fault("", "stills", 0);
+        fault("", "stillz", 0);
+        fault("", "astill", 0);
+        fault("", "xaw 0 0", 0);
+        fault("", "lawx 0 0", 0);
         fault("", "still still", 6);
         fault("", "Law 0 0", 0);
         fault("", "law 0 0\t", 7);
@@ -241,6 +248,13 @@ public final class LakeTests {
         c.due("law(5, 5) behind a lake that came to nothing", x.law(5, 5), 0);
         c.due("lawOf(0, 0)", x.lawOf(0, 0), 5);
         c.due("a lake behind a fault", Checks.read(x, "ring s"), 1);
+        c.due("status(0) behind it", x.status(0), 1);
+        c.due("lawOf(0, 0) behind it", x.lawOf(0, 0), 5);
+        x.ask(0, 7);
+        x.still();
+        c.due("a lake behind calls", Checks.read(x, "miss 3"), 1);
+        c.due("status(2)", x.status(2), 7);
+        c.due("status(4)", x.status(4), 0);
         c.due("status(12)", x.status(12), 1);
     }
 

@@ -134,6 +134,8 @@ public final class LawTests {
         c.due("lawFor(4, 0b0101)", x.lawFor(4, 0b0101), 3);
         c.due("lawFor(4, 0b1010)", x.lawFor(4, 0b1010), 0);
         c.due("lawFor(3, 0b010)", x.lawFor(3, 0b010), 1);
+        c.due("lawFor(1, 0)", x.lawFor(1, 0), 1);
+        c.due("a plan of strokes alone", Checks.of("law 0 0").lawFor(2, 0), 0);
         AnsweredByTheDrowned y = Checks.of("law 5 0");
         c.due("none has one", y.lawFor(2, 0b10), -1);
         c.due("refusals", y.status(12), 0);
@@ -239,6 +241,8 @@ public final class LawTests {
         c.due("next(0b00011, 1)", x.next(0b00011, 1), 0);
         c.due("next(0b00011, 0)", x.next(0b00011, 0), 0);
         c.due("next(0, 1)", x.next(0, 1), 0);
+        c.due("one would strike, two not", x.next(0b01101, 1), 1);
+        c.due("two would strike, one not", x.next(0b00111, 1), 1);
         // behind gs: hours 0 strikes whatever comes, gap 0 at a gap alone: by a stroke they part
         AnsweredByTheDrowned y = Checks.of("law 0 0; law 5 0; ring gs");
         c.due("a stroke parts", y.next(0b11, 0), 1);
@@ -262,6 +266,8 @@ public final class LawTests {
         c.due("loudest(3, 1)", x.loudest(3, 1), 0b001);
         c.due("loudest(5, 2)", x.loudest(5, 2), 0b00011);
         c.due("loudest(3, 3)", x.loudest(3, 3), 0b111);
+        c.due("loudest(1, 1)", x.loudest(1, 1), 1);
+        c.due("loudest(12, 12)", x.loudest(12, 12), 4095);
         AnsweredByTheDrowned y = Checks.of("law 0 0; depth 1; ring sssss");
         c.due("loudest(4, 1)", y.loudest(4, 1), 0b0001);
         c.due("loudest(4, 2)", y.loudest(4, 2), 0b0011);
@@ -281,6 +287,7 @@ public final class LawTests {
         c.due("an echo's plan", x.plan(4, 0b1010), 0b0101);
         c.due("never at 0 by an echo", x.plan(4, 0b0001), -1);
         c.due("an echo of nothing", x.plan(4, 0), 0);
+        c.due("an echo of nothing in one step", x.plan(1, 0), 0);
         x.use(0);
         c.due("a gap's plan", x.plan(4, 0b1010), 0b0101);
         c.due("a gap's plan of twelve", x.plan(12, 0), 4095);
@@ -314,6 +321,12 @@ public final class LawTests {
         c.due("all four", x.fill(4, 0b1111), 0b0011);
         c.due("nothing", x.fill(4, 0), 0);
         c.due("not without its echo", x.fill(4, 0b0001), -1);
+        c.due("one step", x.fill(1, 1), 1);
+        x.ask(0, 0);
+        c.due("of two alike the least", x.fill(3, 0b111), 0b011);
+        x.ask(0, 9);
+        c.due("strokes alone", x.fill(3, 0b111), 0b111);
+        x.ask(0, 1);
         x.use(0);
         c.due("a gap sounds one later", x.fill(3, 0b110), 0);
         c.due("a stroke keeps the next silent", x.fill(3, 0b101), 0b001);

@@ -106,6 +106,10 @@ public final class PeopleTests {
         c.due("reached(999)", y.reached(999), 425);
         c.due("reached(0) again", y.reached(0), 1);
         c.due("reached(999) of nobody", Checks.of("").reached(999), 1);
+        AnsweredByTheDrowned old = Checks.of(("person 99;".repeat(10) + "still"));
+        c.due("reached(989) of ten times 99", old.reached(989), 10);
+        c.due("reached(990) of ten times 99", old.reached(990), 11);
+        c.due("reached(999) of ten times 99", old.reached(999), 11);
         c.refused("reached(1000)", made(TEN), z -> z.reached(1000), -2);
         c.refused("reached(-1)", made(TEN), z -> z.reached(-1), -2);
     }

@@ -40,9 +40,11 @@ public final class ShelfTests {
         c.due("row(7, 4, 40)", x.row(7, 4, 40), 1);
         c.due("holds(7)", x.holds(7), 4);
         c.due("set(7, 39, 5)", x.set(7, 39, 5), 1);
+        c.due("set(7, 0, 5)", x.set(7, 0, 5), 1);
         c.due("set(7, 40, 5)", x.set(7, 40, 5), -2);
         c.due("row(7, 3, 40) again", x.row(7, 3, 40), 1);
         c.due("element(7, 39) of a new row", x.element(7, 39), 0);
+        c.due("element(7, 0) of a new row", x.element(7, 0), 0);
         x.law(0, 0);
         x.show(0, 0);
         c.due("row(0, 1, 2) where a law was", x.row(0, 1, 2), 1);
@@ -140,6 +142,8 @@ public final class ShelfTests {
         c.refused("copy(0, 2, ..)", made, x -> x.copy(0, 2, 0, 0, 1), -3);
         c.refused("copy(2, 0, ..)", made, x -> x.copy(2, 0, 0, 0, -1), -3);
         c.refused("copy(1, 0, ..)", made, x -> x.copy(1, 0, 0, 0, 1), -3);
+        c.refused("copy(0, 1, ..)", made, x -> x.copy(0, 1, 0, 0, 1), -3);
+        c.refused("copy(1, 2, ..)", made, x -> x.copy(1, 2, 0, 0, 9), -4);
         c.refused("copy(2, 3, ..)", made, x -> x.copy(2, 3, 0, 0, 9), -3);
         c.refused("copy(2, 1, ..)", made, x -> x.copy(2, 1, -1, 0, 1), -4);
         c.refused("copy(1, 1, ..)", made, x -> x.copy(1, 1, 0, 0, 1), -4);

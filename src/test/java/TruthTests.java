@@ -60,6 +60,10 @@ public final class TruthTests {
         c.due("silent", x.answers(0, 5, 2), 2);
         c.due("of fewer", x.answers(0, 2, 0), 1);
         c.due("of none", x.answers(0, 0, 2), 0);
+        x.law(5, 0);
+        x.use(1);
+        c.due("how often at hours", x.answers(0, 5, 0), 3);
+        c.due("how often at hours of four", x.answers(0, 4, 0), 2);
         c.due("THE RING is as it was", x.status(4), 2);
         AnsweredByTheDrowned y = told("", 1, 0);
         c.due("strikes without laws", y.answers(0, 2, 0), 0);
@@ -290,6 +294,13 @@ public final class TruthTests {
         c.due("a person behind it", x.person(5), 1);
         c.due("age(1)", x.age(1), 5);
         c.due("back() once more", x.back(), 1);
+        c.due("holds(0) of a law that stays", x.holds(0), 11);
+        x.law(0, 0);
+        x.show(0, 2);
+        x.show(7, 2);
+        c.due("back() a third time", x.back(), 1);
+        c.due("holds(0)", x.holds(0), -1);
+        c.due("holds(7)", x.holds(7), -1);
         c.due("status(0)", x.status(0), 2);
         c.refused("back() to nothing", made("law 0 0"), y -> y.back(), -5);
     }
