@@ -205,6 +205,12 @@ public final class ShelfTests {
         c.due("show(3, NONE) of a row", x.show(3, -1), 1);
         c.due("holds(3)", x.holds(3), -1);
         c.due("show(1, NONE) of nothing", x.show(1, -1), 1);
+        Checks.put(x, 4, 5, 6);
+        x.show(4, -1);
+        c.due("element(4, 0) where a row was", x.element(4, 0), 0);
+        Checks.put(x, 4, 5, 6);
+        x.show(4, 0);
+        c.due("element(4, 0) where a law is", x.element(4, 0), 0);
         c.refused("show(0, 1)", ShelfTests::mixed, y -> y.show(0, 1), -2);
         c.refused("show(0, -2)", ShelfTests::mixed, y -> y.show(0, -2), -2);
         c.refused("show(8, 0)", ShelfTests::mixed, y -> y.show(8, 0), -2);
