@@ -186,6 +186,7 @@ public final class LawTests {
         c.due("miss 0", Checks.of("law 0 0; ring ggg").odds(), 1000000);
         c.due("miss 10", Checks.of("law 0 0; ring gsgg; miss 10").odds(), 729000);
         c.due("miss 37, cut", Checks.of("law 0 0; ring ggggg; miss 37").odds(), 99243);
+        c.due("miss 10, cut after each", Checks.of("law 0 0; ring gggggggg; miss 10").odds(), 430466);
         c.due("miss 99", Checks.of("law 0 0; ring gggg; miss 99").odds(), 0);
         c.due("miss 100", Checks.of("law 0 0; ring g; miss 100").odds(), 0);
         c.due("never striking", Checks.of("law 0 0; ring s; miss 100").odds(), 1000000);
