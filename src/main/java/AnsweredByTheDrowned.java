@@ -1609,6 +1609,9 @@ public final class AnsweredByTheDrowned {
         }
 
         private boolean readSteps() {
+            if (!draft.hasRoom()) {
+                return false;
+            }
             tape.nextToken();
             if (tape.token != Tape.WORD || tape.tokenLength() > MOST_STEPS - draft.steps) {
                 return false;

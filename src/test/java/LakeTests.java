@@ -235,10 +235,18 @@ public final class LakeTests {
         fault("law 0 0", SIX_LAWS, 45);
         fault(TEN_PEOPLE, "person 0", 0);
         fault("person 1", TEN_PEOPLE, 89);
-        fault("ring " + FORTY, "ring s", 5);
+        fault("ring " + FORTY, "ring s", 0);
+        fault("ring " + FORTY, "ring", 0);
+        fault("ring " + FORTY, "  ring 5", 2);
+        fault("ring " + FORTY, "depth 1;ring;", 8);
+        fault("ring " + FORTY, "rings s", 0);
+        fault("", "ring " + FORTY + "; ring s", 47);
+        fault("", "still; ring " + FORTY + "; ring", 54);
+        // room for one STEP: it's the WORD behind that is too long
         fault("ring " + FORTY.substring(1), "ring gg", 5);
+        fault("ring " + FORTY.substring(1), "ring", 4);
+        fault("ring " + FORTY.substring(1), "ring s; ring s", 8);
         fault("", "ring " + FORTY + "s", 5);
-        fault("", "ring " + FORTY + "; ring s", 52);
     }
 
     private static void allOrNothing() {

@@ -317,7 +317,8 @@ public final class Model {
     private boolean statement(List<String> tokens, int[] at) {
         String word = tokens.get(at[0]);
         if (!List.of("law", "use", "depth", "miss", "ring", "person", "still").contains(word)
-                || word.equals("law") && laws.size() == 6 || word.equals("person") && ages.size() == 10) {
+                || word.equals("law") && laws.size() == 6 || word.equals("person") && ages.size() == 10
+                || word.equals("ring") && ring.size() == 40) {
             return false;
         }
         at[0]++;

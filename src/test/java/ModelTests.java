@@ -61,6 +61,10 @@ public final class ModelTests {
                 continue;
             }
             if (name.equals("lake") && left > 120 && chance.nextInt(3) > 0) {
+                // by chance alone a lake seldom meets a ring without room, or with little
+                if (chance.nextInt(4) == 0 && !(asked("days", 40) && asked("cut", chance.nextInt(4)))) {
+                    return false;
+                }
                 if (!read(lake(4, true))) {
                     return false;
                 }
