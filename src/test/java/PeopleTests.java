@@ -3,143 +3,262 @@ import java.util.function.Supplier;
 /** Promises 50 to 57: days by remainders, and for whom it tolls. */
 public final class PeopleTests {
     private static final Checks c = new Checks();
+    private static final int MIN = Integer.MIN_VALUE;
+    private static final int MAX = Integer.MAX_VALUE;
+    private static final Supplier<AnsweredByTheDrowned> NEW = AnsweredByTheDrowned::new;
 
     private static final String TEN = "person 1; person 2; person 4; person 8; person 16;"
             + "person 32; person 64; person 99; person 99; person 99";
+    private static final String TEN_OF_99 = "person 99" + ";person 99".repeat(9);
 
     public static void main(String[] args) {
-        day();
-        tolls();
-        meet();
-        sum();
-        reached();
-        halves();
-        ranked();
-        oldest();
-        c.finish();
+        c.run(PeopleTests.class);
     }
 
     private static Supplier<AnsweredByTheDrowned> made(String text) {
-        return () -> Checks.of(text);
+        return Checks.made(text);
     }
 
-    private static void day() {
-        c.promise(50);
-        AnsweredByTheDrowned x = Checks.of("");
-        c.due("day(5, 3, 7, 2)", x.day(5, 3, 7, 2), 23);
-        c.due("day(1, 0, 1, 0)", x.day(1, 0, 1, 0), 0);
-        c.due("day(4, 1, 6, 5)", x.day(4, 1, 6, 5), 5);
-        c.due("day(4, 1, 6, 2)", x.day(4, 1, 6, 2), -1);
-        c.due("day(99, 98, 98, 97)", x.day(99, 98, 98, 97), 9701);
-        c.due("day(99, 0, 99, 1)", x.day(99, 0, 99, 1), -1);
-        c.due("refusals", x.status(12), 0);
-        int[][] bad = {{0, 0, 1, 0}, {100, 0, 1, 0}, {1, 0, 0, 0}, {1, 0, 100, 0}, {5, 5, 1, 0}, {5, -1, 1, 0},
-            {1, 0, 5, 5}, {1, 0, 5, -1}, {-5, 0, 1, 0}};
+    // ---- 50: day
+
+    private static void dayIs(int m, int r, int n, int q, int day) {
+        c.asks("day(" + m + ", " + r + ", " + n + ", " + q + ")", Checks::some, x -> x.day(m, r, n, q), day);
+    }
+
+    private static void promise50LeastDay() {
+        dayIs(5, 3, 7, 2, 23);
+        dayIs(4, 1, 6, 5, 5);
+        dayIs(7, 6, 7, 6, 6);
+        dayIs(10, 0, 4, 2, 10);
+    }
+
+    private static void promise50SmallestAndLargest() {
+        dayIs(1, 0, 1, 0, 0);
+        dayIs(99, 0, 99, 0, 0);
+        dayIs(99, 98, 1, 0, 98);
+        dayIs(1, 0, 99, 98, 98);
+        // one less than 99 times 98 is 98 by 99 over, and 97 by 98
+        dayIs(99, 98, 98, 97, 9701);
+    }
+
+    private static void promise50NoneIsNotRefused() {
+        dayIs(4, 1, 6, 2, -1);
+        dayIs(99, 0, 99, 1, -1);
+        dayIs(2, 0, 2, 1, -1);
+    }
+
+    private static void promise50Bad() {
+        int[][] bad = {{0, 0, 1, 0}, {-5, 0, 1, 0}, {100, 0, 1, 0}, {MIN, 0, 1, 0}, {MAX, 0, 1, 0}, {1, 0, 0, 0},
+            {1, 0, -5, 0}, {1, 0, 100, 0}, {1, 0, MIN, 0}, {1, 0, MAX, 0}};
         for (int[] one : bad) {
-            c.refused("day(" + java.util.Arrays.toString(one) + ")", made(""),
-                    y -> y.day(one[0], one[1], one[2], one[3]), -2);
+            dayIsBad(one[0], one[1], one[2], one[3]);
         }
     }
 
-    private static void tolls() {
-        c.promise(51);
-        AnsweredByTheDrowned x = Checks.of("person 40; person 21; person 61; person 7");
-        c.due("tolls(61, 0)", x.tolls(61, 0), 2);
-        c.due("tolls(61, 1)", x.tolls(61, 1), 0b0100);
-        c.due("tolls(68, 0)", x.tolls(68, 0), 2);
-        c.due("tolls(68, 1)", x.tolls(68, 1), 0b1100);
-        c.due("tolls(129, 1)", x.tolls(129, 1), 0b1111);
-        c.due("tolls(0, 0)", x.tolls(0, 0), 1);
-        c.due("tolls(0, 1)", x.tolls(0, 1), 0);
-        c.due("tolls(5, 0)", x.tolls(5, 0), 0);
-        c.due("tolls(5, 1)", x.tolls(5, 1), -1);
-        c.due("refusals", x.status(12), 0);
-        AnsweredByTheDrowned y = Checks.of("person 10; person 20; person 10; person 20");
-        c.due("tolls(30, 0)", y.tolls(30, 0), 4);
-        c.due("tolls(30, 1)", y.tolls(30, 1), 0b0011);
-        c.due("fewest ahead of least", Checks.of("person 1; person 2; person 3").tolls(3, 1), 0b100);
-        c.due("tolls(424, 0)", Checks.of(TEN).tolls(424, 0), 1);
-        c.due("tolls(424, 1)", Checks.of(TEN).tolls(424, 1), 1023);
-        c.due("tolls(1, 0) of nobody", Checks.of("").tolls(1, 0), 0);
-        c.refused("tolls(1000, 0)", made(TEN), z -> z.tolls(1000, 0), -2);
-        c.refused("tolls(-1, 0)", made(TEN), z -> z.tolls(-1, 0), -2);
-        c.refused("tolls(0, 2)", made(TEN), z -> z.tolls(0, 2), -2);
-        c.refused("tolls(0, -1)", made(TEN), z -> z.tolls(0, -1), -2);
-        c.due("tolls(999, 0)", Checks.of(TEN).tolls(999, 0), 0);
-    }
-
-    private static void meet() {
-        c.promise(52);
-        AnsweredByTheDrowned x = Checks.of("");
-        c.due("meet(1, 1)", x.meet(1, 1), 1);
-        c.due("meet(4, 6)", x.meet(4, 6), 12);
-        c.due("meet(7, 7)", x.meet(7, 7), 7);
-        c.due("meet(99, 98)", x.meet(99, 98), 9702);
-        c.due("meet(50, 5)", x.meet(50, 5), 50);
-        int[][] bad = {{0, 1}, {1, 0}, {100, 1}, {1, 100}, {-2, 4}};
+    private static void promise50BadRemainders() {
+        int[][] bad = {{5, 5, 1, 0}, {5, -1, 1, 0}, {1, 1, 1, 0}, {99, 99, 1, 0}, {5, MIN, 1, 0}, {5, MAX, 1, 0},
+            {1, 0, 5, 5}, {1, 0, 5, -1}, {1, 0, 1, 1}, {1, 0, 99, 99}, {1, 0, 5, MIN}, {1, 0, 5, MAX}};
         for (int[] one : bad) {
-            c.refused("meet(" + one[0] + ", " + one[1] + ")", made(""), y -> y.meet(one[0], one[1]), -2);
+            dayIsBad(one[0], one[1], one[2], one[3]);
         }
     }
 
-    private static void sum() {
-        c.promise(53);
+    private static void dayIsBad(int m, int r, int n, int q) {
+        c.refused("day(" + m + ", " + r + ", " + n + ", " + q + ")", Checks::some, x -> x.day(m, r, n, q), -2);
+    }
+
+    // ---- 51: tolls
+
+    private static void tollsOf(String text, int n, int sets, int least) {
+        c.asks("tolls(" + n + ", 0) of " + text, made(text), x -> x.tolls(n, 0), sets);
+        c.asks("tolls(" + n + ", 1) of " + text, made(text), x -> x.tolls(n, 1), least);
+    }
+
+    private static void promise51HowManyAndFewest() {
+        String four = "person 40; person 21; person 61; person 7";
+        tollsOf(four, 61, 2, 0b0100);
+        tollsOf(four, 68, 2, 0b1100);
+        tollsOf(four, 129, 1, 0b1111);
+        tollsOf("person 10; person 20; person 10; person 20", 30, 4, 0b0011);
+        tollsOf("person 1; person 2; person 3", 3, 2, 0b100);
+    }
+
+    private static void promise51SmallestAndLargest() {
+        tollsOf(TEN, 0, 1, 0);
+        tollsOf("", 0, 1, 0);
+        tollsOf(TEN, 1, 1, 1);
+        tollsOf(TEN, 424, 1, 1023);
+        tollsOf(TEN_OF_99, 990, 1, 1023);
+        tollsOf(TEN_OF_99, 99, 10, 1);
+        tollsOf(TEN_OF_99, 495, 252, 31);
+    }
+
+    private static void promise51NoneIsNotRefused() {
+        tollsOf("person 40; person 21", 5, 0, -1);
+        tollsOf("", 1, 0, -1);
+        tollsOf("", 999, 0, -1);
+        tollsOf(TEN, 425, 0, -1);
+        tollsOf(TEN_OF_99, 991, 0, -1);
+        tollsOf(TEN_OF_99, 999, 0, -1);
+    }
+
+    private static void promise51Bad() {
+        for (int n : new int[] {-1, 1000, MIN, MAX}) {
+            c.refused("tolls(" + n + ", 0)", made(TEN), x -> x.tolls(n, 0), -2);
+            c.refused("tolls(" + n + ", 1) of nobody", NEW, x -> x.tolls(n, 1), -2);
+        }
+        for (int what : new int[] {-1, 2, MIN, MAX}) {
+            c.refused("tolls(0, " + what + ")", made(TEN), x -> x.tolls(0, what), -2);
+        }
+    }
+
+    // ---- 52: meet
+
+    private static void promise52LeastAboveZero() {
+        int[][] due = {{1, 1, 1}, {4, 6, 12}, {7, 7, 7}, {50, 5, 50}, {1, 99, 99}, {99, 1, 99}, {99, 99, 99},
+            {99, 98, 9702}, {98, 99, 9702}};
+        for (int[] one : due) {
+            c.asks("meet(" + one[0] + ", " + one[1] + ")", Checks::some, x -> x.meet(one[0], one[1]), one[2]);
+        }
+    }
+
+    private static void promise52Bad() {
+        int[][] bad = {{0, 1}, {1, 0}, {-1, 1}, {1, -1}, {100, 1}, {1, 100}, {0, 0}, {MIN, 1}, {1, MIN}, {MAX, 1}, {1, MAX}};
+        for (int[] one : bad) {
+            c.refused("meet(" + one[0] + ", " + one[1] + ")", Checks::some, x -> x.meet(one[0], one[1]), -2);
+        }
+    }
+
+    // ---- 53: sum
+
+    private static void promise53OfASet() {
         AnsweredByTheDrowned x = Checks.of("person 40; person 21; person 61");
-        c.due("sum(0)", x.sum(0), 0);
+        c.due("sum(0b100)", x.sum(0b100), 61);
         c.due("sum(0b101)", x.sum(0b101), 101);
         c.due("sum(0b111)", x.sum(0b111), 122);
-        c.refused("sum(0b1000)", made("person 40; person 21; person 61"), y -> y.sum(0b1000), -2);
-        c.refused("sum(-1)", made("person 40; person 21; person 61"), y -> y.sum(-1), -2);
-        c.refused("sum(1) of nobody", made(""), y -> y.sum(1), -2);
-        c.due("sum(1023)", Checks.of(TEN).sum(1023), 424);
     }
 
-    private static void reached() {
-        c.promise(54);
+    private static void promise53NobodyAndAllTen() {
+        c.asks("sum(0)", made(TEN), x -> x.sum(0), 0);
+        c.asks("sum(0) of nobody", NEW, x -> x.sum(0), 0);
+        c.asks("sum(1023)", made(TEN), x -> x.sum(1023), 424);
+        c.asks("sum(512)", made(TEN), x -> x.sum(512), 99);
+        c.asks("sum(1023) of the oldest", made(TEN_OF_99), x -> x.sum(1023), 990);
+    }
+
+    private static void promise53Bad() {
+        for (int set : new int[] {-1, 0b100, 0b111, 1024, MIN, MAX}) {
+            c.refused("sum(" + set + ") of two", Checks::some, x -> x.sum(set), -2);
+        }
+        c.refused("sum(1024) of ten", made(TEN), x -> x.sum(1024), -2);
+        c.refused("sum(1) of nobody", NEW, x -> x.sum(1), -2);
+    }
+
+    // ---- 54: reached
+
+    private static void promise54HowMany() {
         AnsweredByTheDrowned x = Checks.of("person 5; person 5; person 2");
         int[] due = {1, 1, 2, 2, 2, 3, 3, 4, 4, 4, 5, 5, 6, 6};
         for (int n = 0; n < due.length; n++) {
             c.due("reached(" + n + ")", x.reached(n), due[n]);
         }
-        AnsweredByTheDrowned y = Checks.of(TEN);
-        c.due("reached(127)", y.reached(127), 128);
-        c.due("reached(999)", y.reached(999), 425);
-        c.due("reached(0) again", y.reached(0), 1);
-        c.due("reached(999) of nobody", Checks.of("").reached(999), 1);
-        AnsweredByTheDrowned old = Checks.of(("person 99;".repeat(10) + "still"));
-        c.due("reached(989) of ten times 99", old.reached(989), 10);
-        c.due("reached(990) of ten times 99", old.reached(990), 11);
-        c.due("reached(999) of ten times 99", old.reached(999), 11);
-        c.refused("reached(1000)", made(TEN), z -> z.reached(1000), -2);
-        c.refused("reached(-1)", made(TEN), z -> z.reached(-1), -2);
     }
 
-    private static void halves() {
-        c.promise(55);
-        c.due("nobody", Checks.of("").halves(), 0);
-        c.due("one", Checks.of("person 99").halves(), 0);
-        c.due("two", Checks.of("person 1; person 5").halves(), 0b01);
-        c.due("the half itself", Checks.of("person 3; person 1; person 1; person 2; person 2; person 1").halves(), 0b000111);
-        c.due("above the half", Checks.of("person 2; person 7; person 4").halves(), 0b010);
+    private static void promise54SmallestAndLargest() {
+        c.asks("reached(0)", made(TEN), x -> x.reached(0), 1);
+        c.asks("reached(1)", made(TEN), x -> x.reached(1), 2);
+        c.asks("reached(127)", made(TEN), x -> x.reached(127), 128);
+        c.asks("reached(999)", made(TEN), x -> x.reached(999), 425);
+        c.asks("reached(0) of nobody", NEW, x -> x.reached(0), 1);
+        c.asks("reached(999) of nobody", NEW, x -> x.reached(999), 1);
+        c.asks("reached(989) of the oldest", made(TEN_OF_99), x -> x.reached(989), 10);
+        c.asks("reached(990) of the oldest", made(TEN_OF_99), x -> x.reached(990), 11);
+        c.asks("reached(999) of the oldest", made(TEN_OF_99), x -> x.reached(999), 11);
     }
 
-    private static void ranked() {
-        c.promise(56);
+    private static void promise54AskedAgain() {
+        AnsweredByTheDrowned x = Checks.of(TEN);
+        c.due("reached(999)", x.reached(999), 425);
+        c.due("reached(0) behind it", x.reached(0), 1);
+        c.due("reached(999) again", x.reached(999), 425);
+    }
+
+    private static void promise54Bad() {
+        for (int n : new int[] {-1, 1000, MIN, MAX}) {
+            c.refused("reached(" + n + ")", made(TEN), x -> x.reached(n), -2);
+            c.refused("reached(" + n + ") of nobody", NEW, x -> x.reached(n), -2);
+        }
+    }
+
+    // ---- 55: halves
+
+    private static void halvesOf(String text, int set) {
+        c.asks("halves() of " + text, made(text), x -> x.halves(), set);
+    }
+
+    private static void promise55NearestToHalf() {
+        halvesOf("person 3; person 1; person 1; person 2; person 2; person 1", 0b000111);
+        halvesOf("person 2; person 7; person 4", 0b010);
+        halvesOf("person 9; person 2; person 2", 0b001);
+    }
+
+    private static void promise55LeastOfSeveral() {
+        halvesOf("person 1; person 5", 0b01);
+        halvesOf("person 5; person 5", 0b01);
+        // 3 of 7 with the first alone is as near as 4 with the second
+        halvesOf("person 3; person 4", 0b01);
+        halvesOf("person 4; person 3", 0b01);
+    }
+
+    private static void promise55NobodyOneAndTen() {
+        halvesOf("", 0);
+        halvesOf("person 99", 0);
+        halvesOf("person 1", 0);
+        halvesOf(TEN_OF_99, 0b11111);
+        // half of 424 is 212: 1, 16, 32, 64 and a 99, or 2, 4, 8 and two 99, which are more as bits
+        halvesOf(TEN, 0b0011110001);
+    }
+
+    // ---- 56: ranked
+
+    private static void promise56LeastFirstThenByNumber() {
         AnsweredByTheDrowned x = Checks.of("person 30; person 10; person 30; person 9; person 10");
         int[] due = {3, 1, 4, 0, 2};
         for (int i = 0; i < due.length; i++) {
             c.due("ranked(" + i + ")", x.ranked(i), due[i]);
         }
-        c.refused("ranked(1)", made("person 5"), y -> y.ranked(1), -2);
-        c.refused("ranked(-1)", made("person 5"), y -> y.ranked(-1), -2);
-        c.refused("ranked(0) of nobody", made(""), y -> y.ranked(0), -2);
     }
 
-    private static void oldest() {
-        c.promise(57);
-        c.due("of several the first", Checks.of("person 30; person 41; person 41; person 9").oldest(), 1);
-        c.due("the last", Checks.of("person 30; person 41; person 42").oldest(), 2);
-        c.due("one", Checks.of("person 1").oldest(), 0);
-        c.refused("oldest() of nobody", made(""), y -> y.oldest(), -5);
+    private static void promise56OneAndTen() {
+        c.asks("ranked(0) of one", made("person 5"), x -> x.ranked(0), 0);
+        for (int i = 0; i < 10; i++) {
+            int rank = i;
+            c.asks("ranked(" + i + ") of ten alike", made(TEN_OF_99), x -> x.ranked(rank), i);
+        }
+        c.asks("ranked(9) of ten", Checks::full, x -> x.ranked(9), 9);
+    }
+
+    private static void promise56Bad() {
+        for (int i : new int[] {-1, 2, MIN, MAX}) {
+            c.refused("ranked(" + i + ") of two", Checks::some, x -> x.ranked(i), -2);
+        }
+        c.refused("ranked(10) of ten", Checks::full, x -> x.ranked(10), -2);
+        c.refused("ranked(0) of nobody", NEW, x -> x.ranked(0), -2);
+    }
+
+    // ---- 57: oldest
+
+    private static void promise57FirstOfSeveral() {
+        c.asks("two alike", made("person 30; person 41; person 41; person 9"), x -> x.oldest(), 1);
+        c.asks("the last", made("person 30; person 41; person 42"), x -> x.oldest(), 2);
+        c.asks("the first", made("person 43; person 41; person 42"), x -> x.oldest(), 0);
+        c.asks("one", made("person 1"), x -> x.oldest(), 0);
+        c.asks("ten alike", made(TEN_OF_99), x -> x.oldest(), 0);
+        c.asks("the tenth", Checks::full, x -> x.oldest(), 9);
+    }
+
+    private static void promise57StuckWithNobody() {
+        c.refused("oldest() of nobody", made("law 0 0; ring s"), x -> x.oldest(), -5);
+        c.refused("oldest() of a new object", NEW, x -> x.oldest(), -5);
     }
 }

@@ -1,177 +1,349 @@
 import java.util.function.Supplier;
 
-/** Promises 58 to 70: told rings, THE RING in truth, and what is kept. */
+/** Promises 58 to 67: told rings, THE RING in truth, and the SEED. */
 public final class TruthTests {
     private static final Checks c = new Checks();
+    private static final int MIN = Integer.MIN_VALUE;
+    private static final int MAX = Integer.MAX_VALUE;
+    private static final Supplier<AnsweredByTheDrowned> NEW = AnsweredByTheDrowned::new;
+    private static final String FORTY = Checks.FORTY;
+    private static final String GAPS = "g".repeat(40);
+    private static final String STROKES = "s".repeat(40);
 
-    private static final String FORTY = "ssssssssssggggggggggssssssssssgggggggggg";
+    /** What the SEED is behind a DRAW, and what the DRAW is below 100; from 1, and from others that are an edge. */
+    private static final int BEHIND_ONE = 1103527590;
+    private static final int DRAWS_0 = 0;
+    private static final int DRAWS_1 = 23;
+    private static final int DRAWS_99 = 116;
+    private static final int UPPER_BITS_32767 = -1861048701;
+    private static final int UPPER_BITS_32768 = 2088216195;
+    private static final int UPPER_BITS_65535 = 286434947;
 
     public static void main(String[] args) {
-        judge();
-        answers();
-        rings();
-        toldRefused();
-        ring();
-        days();
-        turn();
-        change();
-        cut();
-        still();
-        seed();
-        image();
-        back();
-        status();
-        c.finish();
+        c.run(TruthTests.class);
     }
 
     private static Supplier<AnsweredByTheDrowned> made(String text) {
-        return () -> Checks.of(text);
+        return Checks.made(text);
     }
 
     private static AnsweredByTheDrowned told(String text, long... elements) {
-        AnsweredByTheDrowned x = Checks.of(text);
-        Checks.put(x, 0, elements);
+        return Checks.told(text, elements);
+    }
+
+    // ---- the refusals of judge, answers and rings
+
+    /** SHELF 0 is WRONG at 1, 1 a LAW, 2 NOTHING, 3 has no elements, 4 forty, WRONG at the last. */
+    private static AnsweredByTheDrowned wrong() {
+        AnsweredByTheDrowned x = told("law 0 0; ring sgg", 1, 2, 0);
+        x.show(1, 0);
+        x.row(3, 0, 0);
+        x.row(4, 0, 40);
+        x.set(4, 39, 2);
         return x;
     }
 
-    private static void judge() {
-        c.promise(58);
-        AnsweredByTheDrowned x = told("", 1, 0, 2, 1, -1);
-        c.due("judge(0, 5)", x.judge(0, 5), 2);
-        c.due("judge(0, 3)", x.judge(0, 3), 2);
-        c.due("judge(0, 2)", x.judge(0, 2), -1);
-        c.due("judge(0, 0)", x.judge(0, 0), -1);
-        x.set(0, 2, 0);
-        c.due("judge(0, 5)", x.judge(0, 5), 4);
-        x.row(1, 4, 40);
-        x.set(1, 39, 77);
-        c.due("judge(1, 40) of booleans", x.judge(1, 40), -1);
-        x.row(2, 3, 1);
-        x.set(2, 0, 1L << 32);
-        c.due("judge(2, 1) of a long", x.judge(2, 1), 0);
-        c.due("refusals", x.status(12) + x.status(15), 0);
+    private interface Telling {
+        int answer(AnsweredByTheDrowned x, int s, int n);
     }
 
-    private static void answers() {
-        c.promise(59);
-        AnsweredByTheDrowned x = told("law 0 0; depth 1; ring ss", 1, 0, 1, 0, 0, 9);
-        c.due("how often it strikes", x.answers(0, 5, 0), 3);
-        c.due("both", x.answers(0, 5, 1), 1);
-        c.due("silent", x.answers(0, 5, 2), 2);
-        c.due("of fewer", x.answers(0, 2, 0), 1);
-        c.due("of none", x.answers(0, 0, 2), 0);
-        x.law(5, 0);
-        x.use(1);
-        c.due("how often at hours", x.answers(0, 5, 0), 3);
-        c.due("how often at hours of four", x.answers(0, 4, 0), 2);
-        c.due("THE RING is as it was", x.status(4), 2);
-        AnsweredByTheDrowned y = told("", 1, 0);
-        c.due("strikes without laws", y.answers(0, 2, 0), 0);
-        c.due("silent without laws", y.answers(0, 2, 2), 1);
+    private static void toldRefused(String name, Telling telling) {
+        int[][] cases = {{-1, 1, -2}, {8, 1, -2}, {MIN, 1, -2}, {MAX, 1, -2}, {0, -1, -2}, {0, 41, -2}, {4, 41, -2},
+            {0, MIN, -2}, {0, MAX, -2}, {1, -1, -2}, {1, 41, -2}, {2, -1, -2}, {2, 41, -2}, {1, 0, -3}, {1, 1, -3},
+            {1, 40, -3}, {2, 0, -4}, {2, 1, -4}, {2, 40, -4}, {0, 4, -2}, {0, 40, -2}, {3, 1, -2}};
+        for (int[] one : cases) {
+            String call = name + "(" + one[0] + ", " + one[1] + ")";
+            c.refused(call, TruthTests::wrong, x -> telling.answer(x, one[0], one[1]), one[2]);
+        }
     }
 
-    private static void rings() {
-        c.promise(60);
+    private static void stuckIfWrong(String name, Telling telling) {
+        c.refused(name + "(0, 2)", TruthTests::wrong, x -> telling.answer(x, 0, 2), -5);
+        c.refused(name + "(0, 3)", TruthTests::wrong, x -> telling.answer(x, 0, 3), -5);
+        c.refused(name + "(4, 40)", TruthTests::wrong, x -> telling.answer(x, 4, 40), -5);
+    }
+
+    // ---- 58: judge
+
+    private static void promise58FirstWrong() {
+        Supplier<AnsweredByTheDrowned> made = () -> told("", 1, 0, 2, 1, -1);
+        c.asks("judge(0, 5)", made, x -> x.judge(0, 5), 2);
+        c.asks("judge(0, 3)", made, x -> x.judge(0, 3), 2);
+        c.asks("the first element", () -> told("", -1, 3), x -> x.judge(0, 2), 0);
+        c.asks("the last of forty", TruthTests::wrong, x -> x.judge(4, 40), 39);
+    }
+
+    private static void promise58NoneIsNotRefused() {
+        Supplier<AnsweredByTheDrowned> made = () -> told("", 1, 0, 2, 1, -1);
+        c.asks("judge(0, 2)", made, x -> x.judge(0, 2), -1);
+        c.asks("judge(0, 0)", made, x -> x.judge(0, 0), -1);
+        c.asks("judge(3, 0) of no elements", TruthTests::wrong, x -> x.judge(3, 0), -1);
+        c.asks("judge(4, 39), right but for the last", TruthTests::wrong, x -> x.judge(4, 39), -1);
+    }
+
+    private static void promise58EachSort() {
+        AnsweredByTheDrowned x = new AnsweredByTheDrowned();
+        for (int sort = 0; sort <= 4; sort++) {
+            x.row(0, sort, 40);
+            c.due("zeros of sort " + sort, x.judge(0, 40), -1);
+            x.set(0, 39, 1);
+            c.due("a one of sort " + sort, x.judge(0, 40), -1);
+            x.set(0, 39, 77);
+            c.due("another of sort " + sort, x.judge(0, 40), sort == 4 ? -1 : 39);
+            x.set(0, 39, 1L << 32);
+            c.due("one of the higher bits of sort " + sort, x.judge(0, 40), sort == 3 ? 39 : -1);
+        }
+    }
+
+    private static void promise58Refused() {
+        toldRefused("judge", (x, s, n) -> x.judge(s, n));
+    }
+
+    // ---- 59: answers
+
+    private static void promise59StrikesBothSilent() {
+        Supplier<AnsweredByTheDrowned> made = () -> told("law 0 0; depth 1; ring ss", 1, 0, 1, 0, 0, 9);
+        c.asks("how often it strikes", made, x -> x.answers(0, 5, 0), 3);
+        c.asks("both", made, x -> x.answers(0, 5, 1), 1);
+        c.asks("silent", made, x -> x.answers(0, 5, 2), 2);
+        c.asks("of fewer", made, x -> x.answers(0, 2, 0), 1);
+        Supplier<AnsweredByTheDrowned> hours = () -> told("law 0 0; law 5 0; use 1", 1, 0, 1, 0, 0);
+        c.asks("by the one IN FORCE", hours, x -> x.answers(0, 5, 0), 3);
+        c.asks("by the one IN FORCE, of four", hours, x -> x.answers(0, 4, 0), 2);
+    }
+
+    private static void promise59NoneAndAllForty() {
+        for (int what = 0; what <= 2; what++) {
+            int asked = what;
+            c.asks("answers(0, 0, " + what + ")", () -> told("law 5 0; ring s", 1), x -> x.answers(0, 0, asked), 0);
+            c.asks("no elements, " + what, () -> told("law 5 0; ring s"), x -> x.answers(0, 0, asked), 0);
+        }
+        Supplier<AnsweredByTheDrowned> forty = () -> told("law 0 0; depth 9; ring s", new long[40]);
+        c.asks("forty gaps", forty, x -> x.answers(0, 40, 0), 40);
+        c.asks("both of forty", forty, x -> x.answers(0, 40, 1), 0);
+        c.asks("silent of forty", forty, x -> x.answers(0, 40, 2), 9);
+    }
+
+    private static void promise59WithoutLaws() {
+        Supplier<AnsweredByTheDrowned> made = () -> told("depth 0", 1, 0);
+        c.asks("strikes", made, x -> x.answers(0, 2, 0), 0);
+        c.asks("both", made, x -> x.answers(0, 2, 1), 0);
+        c.asks("silent", made, x -> x.answers(0, 2, 2), 1);
+    }
+
+    private static void promise59WrongBehindWhatIsTold() {
+        c.asks("answers(0, 1, 2)", TruthTests::wrong, x -> x.answers(0, 1, 2), 0);
+        c.asks("answers(4, 39, 0)", TruthTests::wrong, x -> x.answers(4, 39, 0), 39);
+    }
+
+    private static void promise59Refused() {
+        for (int what = 0; what <= 2; what++) {
+            int asked = what;
+            toldRefused("answers " + what, (x, s, n) -> x.answers(s, n, asked));
+            stuckIfWrong("answers " + what, (x, s, n) -> x.answers(s, n, asked));
+        }
+    }
+
+    private static void promise59BadWhatAheadOfAll() {
+        for (int what : new int[] {-1, 3, MIN, MAX}) {
+            for (int s = 0; s <= 2; s++) {
+                int shelf = s;
+                c.refused("answers(" + s + ", 1, " + what + ")", TruthTests::wrong, x -> x.answers(shelf, 1, what), -2);
+            }
+            c.refused("answers(0, 3, " + what + ") of a wrong one", TruthTests::wrong, x -> x.answers(0, 3, what), -2);
+        }
+    }
+
+    // ---- 60: rings
+
+    private static void promise60FromNowOn() {
         AnsweredByTheDrowned x = told("law 0 0; ring sssss", 0, 1, 1, 2);
         c.due("rings(0, 3)", x.rings(0, 3), 3);
         c.due("status(4)", x.status(4), 3);
         c.due("steps", Checks.bits(3, x::step), 0b110);
+        c.due("step(3)", x.step(3), -2);
         c.due("the seed is as it was", x.status(9), 1);
+        x.set(0, 0, 1);
+        c.due("a step when the row has changed", x.step(0), 0);
+        c.due("ring(true) behind it", x.ring(true), 0);
+        c.due("status(4)", x.status(4), 4);
+    }
+
+    private static void promise60NoneAndAllForty() {
+        AnsweredByTheDrowned x = told("ring " + STROKES, 1);
         c.due("rings(0, 0)", x.rings(0, 0), 0);
+        c.due("status(4)", x.status(4), 0);
         c.due("status(5)", x.status(5), 0);
-        x.row(1, 0, 40);
+        x.row(1, 4, 40);
+        x.set(1, 0, 1);
         x.set(1, 39, 1);
         c.due("rings(1, 40)", x.rings(1, 40), 40);
-        c.due("lastStroke()", x.lastStroke(), 39);
+        c.due("steps", Checks.bits(40, x::step), 1L << 39 | 1);
+        c.due("rings(1, 40) of forty", x.rings(1, 40), 40);
+        c.due("ring(true) behind it", x.ring(true), -6);
+        c.due("rings(1, 39)", x.rings(1, 39), 39);
+        c.due("lastStroke()", x.lastStroke(), 0);
+        x.row(2, 0, 0);
+        c.due("rings(2, 0) of no elements", x.rings(2, 0), 0);
     }
 
-    /** Shelves: 0 a ROW that is WRONG at 1, 1 a LAW, 2 NOTHING. */
-    private static AnsweredByTheDrowned wrong() {
-        AnsweredByTheDrowned x = told("law 0 0; ring sgg", 1, 2, 0);
-        x.show(1, 0);
-        return x;
+    private static void promise60WrongBehindWhatIsTold() {
+        AnsweredByTheDrowned x = wrong();
+        c.due("rings(4, 39)", x.rings(4, 39), 39);
+        c.due("rings(0, 1)", x.rings(0, 1), 1);
+        c.due("steps", x.step(0), 1);
     }
 
-    private static void toldRefused() {
-        int[][] cases = {{8, 1, -2}, {-1, 1, -2}, {1, -1, -2}, {2, 41, -2}, {1, 1, -3}, {1, 9, -3}, {2, 0, -4},
-            {0, 4, -2}, {0, -1, -2}};
-        for (int[] one : cases) {
-            int s = one[0];
-            int n = one[1];
-            c.promise(58);
-            c.refused("judge(" + s + ", " + n + ")", TruthTests::wrong, x -> x.judge(s, n), one[2]);
-            c.promise(59);
-            c.refused("answers(" + s + ", " + n + ", 0)", TruthTests::wrong, x -> x.answers(s, n, 0), one[2]);
-            c.promise(60);
-            c.refused("rings(" + s + ", " + n + ")", TruthTests::wrong, x -> x.rings(s, n), one[2]);
-        }
-        c.promise(59);
-        c.refused("answers(0, 3, 0)", TruthTests::wrong, x -> x.answers(0, 3, 0), -5);
-        c.refused("answers(0, 1, 3)", TruthTests::wrong, x -> x.answers(0, 1, 3), -2);
-        c.refused("answers(1, 1, -1)", TruthTests::wrong, x -> x.answers(1, 1, -1), -2);
-        c.promise(60);
-        c.refused("rings(0, 2)", TruthTests::wrong, x -> x.rings(0, 2), -5);
+    private static void promise60Refused() {
+        toldRefused("rings", (x, s, n) -> x.rings(s, n));
+        stuckIfWrong("rings", (x, s, n) -> x.rings(s, n));
     }
 
-    /** The first DRAW below 100 from SEED 1 is 38, the SEED then 1103527590. */
-    private static void ring() {
-        c.promise(61);
+    // ---- 61: ring
+
+    private static void promise61StrikesOrNot() {
+        AnsweredByTheDrowned x = Checks.of("law 0 0; law 1 0; ring s; use 1");
+        c.due("ring(true) by an echo", x.ring(true), 1);
+        c.due("ring(false) by an echo", x.ring(false), 1);
+        c.due("ring(false) behind a gap", x.ring(false), 0);
+        c.due("steps", Checks.bits(4, x::step), 0b0011);
+        AnsweredByTheDrowned y = Checks.of("law 5 0");
+        c.due("ring(true) at 0", y.ring(true), 1);
+        c.due("ring(false) at 1", y.ring(false), 0);
+        c.due("ring(false) at 2", y.ring(false), 1);
+    }
+
+    private static void promise61DrawOnlyIfItWouldStrike() {
         AnsweredByTheDrowned x = Checks.of("law 0 0; miss 38");
         c.due("ring(true)", x.ring(true), 0);
-        c.due("no draw for what doesn't strike", x.status(9), 1);
+        c.due("no draw for a stroke", x.status(9), 1);
         c.due("ring(false) by a draw of 38", x.ring(false), 1);
-        c.due("a draw", x.status(9), 1103527590);
+        c.due("a draw", x.status(9), BEHIND_ONE);
         c.due("ring(false) by a draw of 26", x.ring(false), 0);
         c.due("a draw", x.status(9), -1770082073);
         c.due("steps", Checks.bits(3, x::step), 0b001);
-        c.due("what was missed is heard of all the same", x.strikes(2), 1);
-        AnsweredByTheDrowned y = Checks.of("law 0 0; miss 39");
-        c.due("ring(false), missed by a draw of 38", y.ring(false), 0);
+        AnsweredByTheDrowned y = Checks.of("ring s; miss 100");
+        c.due("ring(false) without laws", y.ring(false), 0);
+        c.due("no draw without laws", y.status(9), 1);
         AnsweredByTheDrowned z = Checks.of("law 0 0");
         c.due("ring(false), miss 0", z.ring(false), 1);
-        c.due("a draw even so", z.status(9), 1103527590);
-        AnsweredByTheDrowned w = Checks.of("ring s");
-        c.due("ring(false) without laws", w.ring(false), 0);
-        c.due("no draw without laws", w.status(9), 1);
-        AnsweredByTheDrowned v = Checks.of("law 0 0; law 1 0; use 1; ring s");
-        c.due("ring(true) by an echo", v.ring(true), 1);
-        c.due("ring(false) by an echo", v.ring(false), 1);
-        c.due("ring(false) behind a gap", v.ring(false), 0);
-        c.refused("a step more than forty", made("law 0 0; ring " + FORTY), u -> u.ring(false), -6);
+        c.due("a draw, miss 0", z.status(9), BEHIND_ONE);
+        AnsweredByTheDrowned w = Checks.of("law 0 0; miss 100");
+        c.due("ring(false), miss 100", w.ring(false), 0);
+        c.due("a draw, miss 100", w.status(9), BEHIND_ONE);
     }
 
-    private static void days() {
-        c.promise(62);
-        // draws below 2 from seed 1: 0, 0, 1, 1, 1, 1, 0, 1
-        AnsweredByTheDrowned x = Checks.of("");
+    private static void missed(int seed, int miss, int answer) {
+        AnsweredByTheDrowned x = Checks.of("law 0 0; miss " + miss);
+        x.seed(seed);
+        c.due("ring(false), seed " + seed + ", miss " + miss, x.ring(false), answer);
+        c.due("the step is there all the same", x.status(4), 1);
+        c.due("strikes(0), missed or not", x.strikes(0), 1);
+    }
+
+    private static void promise61MissedIfTheDrawIsBelowMiss() {
+        missed(DRAWS_0, 0, 1);
+        missed(DRAWS_0, 1, 0);
+        missed(DRAWS_1, 1, 1);
+        missed(DRAWS_1, 2, 0);
+        missed(1, 38, 1);
+        missed(1, 39, 0);
+        missed(DRAWS_99, 99, 1);
+        missed(DRAWS_99, 100, 0);
+    }
+
+    private static void promise61UpperBitsHaveNoSign() {
+        missed(UPPER_BITS_32767, 67, 1);
+        missed(UPPER_BITS_32767, 68, 0);
+        missed(UPPER_BITS_32768, 68, 1);
+        missed(UPPER_BITS_32768, 69, 0);
+        missed(UPPER_BITS_65535, 35, 1);
+        missed(UPPER_BITS_65535, 36, 0);
+    }
+
+    private static void promise61FullOfForty() {
+        AnsweredByTheDrowned x = Checks.of("law 0 0; ring " + GAPS.substring(1));
+        c.due("the fortieth", x.ring(false), 1);
+        c.due("status(4)", x.status(4), 40);
+        c.due("status(9)", x.status(9), BEHIND_ONE);
+        c.refused("ring(false) of forty", made("law 0 0; ring " + FORTY), y -> y.ring(false), -6);
+        c.refused("ring(true) of forty", made("law 5 0; ring " + FORTY), y -> y.ring(true), -6);
+        c.refused("ring(true) of forty without laws", made("ring " + FORTY), y -> y.ring(true), -6);
+    }
+
+    // ---- 62: days
+
+    private static void promise62StrokesByDraws() {
+        // draws below 2 from 1: 0, 0, 1, 1, 1, 1, 0, 1
+        AnsweredByTheDrowned x = new AnsweredByTheDrowned();
         c.due("days(8) without laws", x.days(8), 0);
         c.due("steps", Checks.bits(8, x::step), 0b10111100);
         c.due("status(9)", x.status(9), -1661227463);
-        // a gap (16838), struck (38526); a stroke (10113); a stroke (50283)
-        AnsweredByTheDrowned y = Checks.of("law 0 0");
-        c.due("days(3)", y.days(3), 1);
-        c.due("steps", Checks.bits(3, y::step), 0b110);
-        c.due("status(9)", y.status(9), -999580867);
-        AnsweredByTheDrowned z = Checks.of("law 0 0; miss 27");
-        c.due("days(1), missed by a draw of 26", z.days(1), 0);
-        AnsweredByTheDrowned w = Checks.of("law 0 0; miss 26");
-        c.due("days(1), not missed by a draw of 26", w.days(1), 1);
-        AnsweredByTheDrowned v = Checks.of("ring " + FORTY.substring(2));
-        c.due("days(40)", v.days(40), 0);
-        c.due("status(4)", v.status(4), 40);
-        c.due("a draw for each step there is room for", v.status(9), -1770082073);
-        c.due("days(1) without room", v.days(1), 0);
-        c.due("no draw without room", v.status(9), -1770082073);
-        c.due("refusals", v.status(12) + v.status(16), 0);
-        c.refused("days(0)", made("law 0 0"), u -> u.days(0), -2);
-        c.refused("days(41)", made("law 0 0"), u -> u.days(41), -2);
-        c.refused("days(-1)", made("law 0 0"), u -> u.days(-1), -2);
     }
 
-    private static void turn() {
-        c.promise(63);
+    private static void promise62DrawsForStepsAndForMisses() {
+        // a gap (16838), struck (38526); a stroke (10113); a stroke (50283)
+        AnsweredByTheDrowned x = Checks.of("law 0 0");
+        c.due("days(3)", x.days(3), 1);
+        c.due("steps", Checks.bits(3, x::step), 0b110);
+        c.due("status(9)", x.status(9), -999580867);
+        c.due("days(1), missed by 26", Checks.of("law 0 0; miss 27").days(1), 0);
+        c.due("days(1), not missed by 26", Checks.of("law 0 0; miss 26").days(1), 1);
+        c.due("days(1), miss 100", Checks.of("law 0 0; miss 100").days(1), 0);
+    }
+
+    private static void promise62SmallestAndLargest() {
+        AnsweredByTheDrowned x = new AnsweredByTheDrowned();
+        c.due("days(1)", x.days(1), 0);
+        c.due("status(4)", x.status(4), 1);
+        c.due("status(9)", x.status(9), BEHIND_ONE);
+        AnsweredByTheDrowned y = new AnsweredByTheDrowned();
+        c.due("days(40) without laws", y.days(40), 0);
+        c.due("steps", Checks.bits(40, y::step), 0x6c8dc7ccbcL);
+        c.due("status(9)", y.status(9), 1775811865);
+        int[] struck = {18, 7, 0};
+        for (int miss = 0; miss <= 100; miss += 50) {
+            AnsweredByTheDrowned z = Checks.of("law 0 0; miss " + miss);
+            c.due("days(40), miss " + miss, z.days(40), struck[miss / 50]);
+            c.due("steps", Checks.bits(40, z::step), 183795875230L);
+            c.due("status(9)", z.status(9), -94435665);
+        }
+    }
+
+    private static void promise62FewerIfThereIsNoRoom() {
+        AnsweredByTheDrowned x = Checks.of("ring " + FORTY.substring(2));
+        c.due("days(40) with room for two", x.days(40), 0);
+        c.due("status(4)", x.status(4), 40);
+        c.due("a draw for each step there is room for", x.status(9), -1770082073);
+        AnsweredByTheDrowned y = Checks.of("ring " + FORTY.substring(1));
+        c.due("days(2) with room for one", y.days(2), 0);
+        c.due("status(9)", y.status(9), BEHIND_ONE);
+        c.asks("days(1) without room", made("law 0 0; ring " + FORTY), z -> z.days(1), 0);
+        c.asks("days(40) without room", made("law 0 0; ring " + FORTY), z -> z.days(40), 0);
+    }
+
+    private static void promise62UpperBitsHaveNoSign() {
+        int[][] due = {{UPPER_BITS_32767, 1}, {UPPER_BITS_32768, 0}, {UPPER_BITS_65535, 1}, {DRAWS_0, 0}};
+        for (int[] one : due) {
+            AnsweredByTheDrowned x = new AnsweredByTheDrowned();
+            x.seed(one[0]);
+            x.days(1);
+            c.due("the step from seed " + one[0], x.step(0), one[1]);
+        }
+    }
+
+    private static void promise62Bad() {
+        for (int n : new int[] {-1, 0, 41, MIN, MAX}) {
+            c.refused("days(" + n + ")", Checks::some, x -> x.days(n), -2);
+            c.refused("days(" + n + ") without room", Checks::full, x -> x.days(n), -2);
+        }
+    }
+
+    // ---- 63: turn
+
+    private static void promise63LastStepFirst() {
         AnsweredByTheDrowned x = Checks.of("law 1 0; ring sggss");
-        c.due("turn()", x.turn(), 3 - 1);
+        c.due("turn()", x.turn(), 2);
         c.due("steps", Checks.bits(5, x::step), 0b10011);
         c.due("turn() again", x.turn(), 2);
         c.due("steps", Checks.bits(5, x::step), 0b11001);
@@ -179,154 +351,160 @@ public final class TruthTests {
         c.due("turn() of sgg", y.turn(), 0);
         c.due("steps", Checks.bits(3, y::step), 0b100);
         c.due("turn() of ggs", y.turn(), 1);
-        AnsweredByTheDrowned z = Checks.of("ring sg");
-        c.due("without laws", z.turn(), 0);
-        c.due("steps", Checks.bits(2, z::step), 0b10);
-        c.due("without steps", Checks.of("law 0 0").turn(), 0);
+        c.due("the seed is as it was", y.status(9), 1);
     }
 
-    private static void change() {
-        c.promise(64);
+    private static void promise63NoneOneAndForty() {
+        c.asks("no steps", made("law 5 0"), x -> x.turn(), 0);
+        c.asks("one stroke", made("law 5 0; ring s"), x -> x.turn(), 1);
+        AnsweredByTheDrowned x = Checks.of("law 1 0; ring " + GAPS.substring(1) + "s");
+        c.due("turn() of forty", x.turn(), 1);
+        c.due("steps", Checks.bits(40, x::step), 1);
+        c.due("turn() of forty again", x.turn(), 0);
+        c.due("steps", Checks.bits(40, x::step), 1L << 39);
+    }
+
+    private static void promise63WithoutLaws() {
+        AnsweredByTheDrowned x = Checks.of("ring sg");
+        c.due("turn()", x.turn(), 0);
+        c.due("steps", Checks.bits(2, x::step), 0b10);
+        c.due("turn() of a new object", new AnsweredByTheDrowned().turn(), 0);
+        c.due("refusals", Checks.refusals(x), 0);
+    }
+
+    // ---- 64: change
+
+    private static void promise64BecomesTheOther() {
         AnsweredByTheDrowned x = Checks.of("law 0 0; ring sg");
         c.due("change(0)", x.change(0), 0);
         c.due("change(1)", x.change(1), 1);
         c.due("steps", Checks.bits(2, x::step), 0b10);
+        c.due("change(1) again", x.change(1), 0);
+        c.due("steps", Checks.bits(2, x::step), 0b00);
         c.due("the seed is as it was", x.status(9), 1);
-        c.due("strikes(0)", x.strikes(0), 1);
-        AnsweredByTheDrowned y = Checks.of("ring " + FORTY);
-        c.due("change(39)", y.change(39), 1);
-        c.due("lastStroke()", y.lastStroke(), 39);
-        c.refused("change(2)", made("ring sg"), z -> z.change(2), -2);
-        c.refused("change(-1)", made("ring sg"), z -> z.change(-1), -2);
-        c.refused("change(0) of no steps", made(""), z -> z.change(0), -2);
+        c.due("strikes(1)", x.strikes(1), 1);
+        c.due("status(4)", x.status(4), 2);
+        c.due("status(5)", x.status(5), 0);
     }
 
-    private static void cut() {
-        c.promise(65);
+    private static void promise64FirstAndLastOfForty() {
+        AnsweredByTheDrowned x = Checks.of("ring " + GAPS);
+        c.due("change(0)", x.change(0), 1);
+        c.due("change(39)", x.change(39), 1);
+        c.due("steps", Checks.bits(40, x::step), 1L << 39 | 1);
+        c.due("change(40)", x.change(40), -2);
+        c.due("status(5)", x.status(5), 2);
+    }
+
+    private static void promise64Bad() {
+        for (int t : new int[] {-1, 4, 64, MIN, MAX}) {
+            c.refused("change(" + t + ")", Checks::some, x -> x.change(t), -2);
+        }
+        c.refused("change(40) of forty", Checks::full, x -> x.change(40), -2);
+        c.refused("change(0) of no steps", NEW, x -> x.change(0), -2);
+    }
+
+    // ---- 65: cut
+
+    private static void promise65HowManyAreLeft() {
         AnsweredByTheDrowned x = Checks.of("ring ssgss");
         c.due("cut(1)", x.cut(1), 4);
         c.due("status(5)", x.status(5), 3);
         c.due("cut(3)", x.cut(3), 1);
         c.due("status(5)", x.status(5), 1);
         c.due("ring(false)", x.ring(false), 0);
-        c.due("step(1)", x.step(1), 0);
+        c.due("a stroke that was cut off", x.step(1), 0);
         c.due("cut(2)", x.cut(2), 0);
-        c.due("cut(40) of forty", Checks.of("ring " + FORTY).cut(40), 0);
-        c.refused("cut(0)", made("ring sg"), y -> y.cut(0), -2);
-        c.refused("cut(-1)", made("ring sg"), y -> y.cut(-1), -2);
-        c.refused("cut(41)", made("ring " + FORTY), y -> y.cut(41), -2);
-        c.refused("cut(3) of two", made("ring sg"), y -> y.cut(3), -5);
-        c.refused("cut(1) of none", made(""), y -> y.cut(1), -5);
+        c.due("status(4)", x.status(4), 0);
     }
 
-    private static void still() {
-        c.promise(66);
+    private static void promise65SmallestAndLargest() {
+        AnsweredByTheDrowned x = Checks.of("ring " + STROKES);
+        c.due("cut(1) of forty", x.cut(1), 39);
+        c.due("ring(false) behind it", x.ring(false), 0);
+        c.due("step(39)", x.step(39), 0);
+        c.due("cut(40) of forty", x.cut(40), 0);
+        c.due("status(4)", x.status(4), 0);
+        c.due("cut(39) of forty", Checks.of("ring " + STROKES).cut(39), 1);
+        c.due("cut(1) of one", Checks.of("ring s").cut(1), 0);
+    }
+
+    private static void promise65BadAheadOfStuck() {
+        for (int n : new int[] {-1, 0, 41, MIN, MAX}) {
+            c.refused("cut(" + n + ")", Checks::some, x -> x.cut(n), -2);
+            c.refused("cut(" + n + ") of forty", Checks::full, x -> x.cut(n), -2);
+            c.refused("cut(" + n + ") of no steps", NEW, x -> x.cut(n), -2);
+        }
+    }
+
+    private static void promise65StuckIfThereAreFewer() {
+        c.refused("cut(5) of four", Checks::some, x -> x.cut(5), -5);
+        c.refused("cut(40) of four", Checks::some, x -> x.cut(40), -5);
+        c.refused("cut(40) of 39", made("ring " + STROKES.substring(1)), x -> x.cut(40), -5);
+        c.refused("cut(1) of none", NEW, x -> x.cut(1), -5);
+    }
+
+    // ---- 66: still
+
+    private static void promise66HowManyThereWere() {
         AnsweredByTheDrowned x = Checks.of("law 0 0; person 9; ring ssgss");
         c.due("still()", x.still(), 5);
         c.due("status(4)", x.status(4), 0);
         c.due("status(5)", x.status(5), 0);
-        c.due("still() again", x.still(), 0);
         c.due("ring(false)", x.ring(false), 1);
-        c.due("step(0)", x.step(0), 0);
+        c.due("a stroke that was there", x.step(0), 0);
         c.due("status(0)", x.status(0), 1);
+        c.due("status(6)", x.status(6), 1);
     }
 
-    private static void seed() {
-        c.promise(67);
+    private static void promise66NoneAndForty() {
+        c.asks("still() of no steps", made("law 0 0"), x -> x.still(), 0);
+        AnsweredByTheDrowned x = Checks.of("ring " + STROKES);
+        c.due("still() of forty", x.still(), 40);
+        c.due("still() again", x.still(), 0);
+        c.due("forty gaps behind it", Checks.read(x, "ring " + GAPS), 1);
+        c.due("status(5)", x.status(5), 0);
+    }
+
+    // ---- 67: seed
+
+    private static void promise67TheOneAhead() {
+        AnsweredByTheDrowned x = new AnsweredByTheDrowned();
+        c.due("seed(0)", x.seed(0), 1);
+        c.due("seed(MIN)", x.seed(MIN), 0);
+        c.due("status(9)", x.status(9), MIN);
+        c.due("seed(MAX)", x.seed(MAX), MIN);
+        c.due("status(9)", x.status(9), MAX);
+        c.due("seed(-1)", x.seed(-1), MAX);
+        c.due("seed(1)", x.seed(1), -1);
+        c.due("seed(1) again", x.seed(1), 1);
+    }
+
+    private static void drawn(int seed, int behind) {
+        AnsweredByTheDrowned x = Checks.of("law 0 0");
+        x.seed(seed);
+        c.due("ring(false)", x.ring(false), 1);
+        c.due("seed() behind a draw from " + seed, x.seed(0), behind);
+    }
+
+    private static void promise67WrapsAroundAsAnInt() {
+        drawn(1, BEHIND_ONE);
+        drawn(2, -2087924461);
+        drawn(0, 12345);
+        drawn(-1, -1103502900);
+        drawn(MAX, 1043980748);
+        drawn(MIN, -2147471303);
+        drawn(UPPER_BITS_32767, 32767 << 16);
+        drawn(UPPER_BITS_32768, MIN);
+        drawn(UPPER_BITS_65535, -65536);
+    }
+
+    private static void promise67DrawsGoOnFromIt() {
         AnsweredByTheDrowned x = Checks.of("law 0 0; miss 50");
-        c.due("seed(5)", x.seed(5), 1);
-        c.due("seed(MIN)", x.seed(Integer.MIN_VALUE), 5);
-        c.due("seed(6)", x.seed(6), Integer.MIN_VALUE);
-        // the seed wraps to -1968830777; its upper bits without a sign are 35494
+        x.seed(6);
         c.due("a draw of 94", x.ring(false), 1);
-        c.due("status(9)", x.status(9), -1968830777);
-        x.seed(3);
         c.due("a draw of 15", x.ring(false), 0);
-    }
-
-    private static void image() {
-        c.promise(68);
-        AnsweredByTheDrowned x = Checks.of("law 0 0; ring s");
-        c.due("image()", x.image(), 1);
-        x.ring(true);
-        c.due("image() anew", x.image(), 1);
-        x.ring(true);
-        c.due("back()", x.back(), 1);
-        c.due("the later image", x.status(4), 2);
-        c.due("image() of a new object", new AnsweredByTheDrowned().image(), 1);
-    }
-
-    private static void back() {
-        c.promise(69);
-        AnsweredByTheDrowned x = Checks.of("law 1 4; law 2 3; use 1; depth 7; miss 9; ring sgs; person 20");
-        x.seed(77);
-        x.feed('s');
-        x.law(7, 7);
-        x.image();
-        x.law(0, 0);
-        x.law(5, 5);
-        x.show(0, 1);
-        x.show(1, 2);
-        x.show(2, 3);
-        Checks.put(x, 3, 8, 9);
-        x.use(3);
-        x.ask(0, 1);
-        x.ask(1, 2);
-        x.person(30);
-        x.seed(78);
-        x.change(0);
-        x.ring(true);
-        x.feed('t');
-        x.use(9);
-        c.due("back()", x.back(), 1);
-        int[] due = {2, 1, 7, 9, 3, 2, 1, 20, 2, 77, 2, -1, 2, 0, 0, 0, 0};
-        for (int what = 0; what < due.length; what++) {
-            c.due("status(" + what + ")", x.status(what), due[what]);
-        }
-        c.due("steps", Checks.bits(3, x::step), 0b101);
-        c.due("holds(0)", x.holds(0), 11);
-        c.due("says(0, 2)", x.says(0, 0), 3);
-        c.due("holds(1)", x.holds(1), -1);
-        c.due("holds(2)", x.holds(2), -1);
-        c.due("element(3, 1)", x.element(3, 1), 9);
-        c.due("a law behind it", x.law(3, 8), 2);
-        c.due("lawOf(2, 0)", x.lawOf(2, 0), 3);
-        c.due("a person behind it", x.person(5), 1);
-        c.due("age(1)", x.age(1), 5);
-        c.due("back() once more", x.back(), 1);
-        c.due("holds(0) of a law that stays", x.holds(0), 11);
-        x.law(0, 0);
-        x.show(0, 2);
-        x.show(7, 2);
-        c.due("back() a third time", x.back(), 1);
-        c.due("holds(0)", x.holds(0), -1);
-        c.due("holds(7)", x.holds(7), -1);
-        c.due("status(0)", x.status(0), 2);
-        c.refused("back() to nothing", made("law 0 0"), y -> y.back(), -5);
-    }
-
-    private static void status() {
-        c.promise(70);
-        AnsweredByTheDrowned x = Checks.of("law 1 4; law 2 3; use 1; depth 7; miss 9; ring sgs; person 20; person 30");
-        x.row(0, 0, 0);
-        x.show(7, 1);
-        x.feed(0);
-        x.age(9);
-        x.age(9);
-        x.set(7, 0, 0);
-        x.set(1, 0, 0);
-        x.cut(40);
-        for (int i = 0; i < 4; i++) {
-            x.law(0, 0);
-        }
-        x.law(0, 0);
-        int[] due = {6, 1, 7, 9, 3, 2, 2, 50, 1, 1, 2, -1, 2, 1, 1, 1, 1, -1};
-        for (int what = 0; what < due.length; what++) {
-            c.due("status(" + what + ")", x.status(what), due[what]);
-        }
-        c.due("status(-1)", x.status(-1), -1);
-        c.due("status(MIN)", x.status(Integer.MIN_VALUE), -1);
-        c.due("status(MAX)", x.status(Integer.MAX_VALUE), -1);
-        c.due("asking refuses nothing", x.status(12), 2);
+        x.seed(6);
+        c.due("a draw of 94 again", x.ring(false), 1);
     }
 }
