@@ -389,7 +389,8 @@ public final class LakeTests {
 
     private static void promise15WordsThatAreNoStatement() {
         for (String word : new String[] {"laws", "la", "l", "aw", "xaw", "lax", "lawlaw", "uses", "us", "depths", "dept",
-            "misses", "mis", "rings", "rin", "persons", "perso", "stills", "stil", "astill", "s", "z"}) {
+            "misses", "mis", "rings", "rin", "persons", "perso", "stills", "stil", "stilla", "stillz", "astill", "zstill",
+            "s", "z"}) {
             fault("", word + " 0 0", 0);
             fault("", "still;" + word + " 0", 6);
         }

@@ -317,6 +317,10 @@ public final class ShelfTests {
         for (int none : new int[] {-1, 8, MIN, MAX}) {
             copyRefused(none, 2, 0, 0, 1, -2);
             copyRefused(2, none, 0, 0, 1, -2);
+            copyRefused(none, none, 0, 0, 1, -2);
+            copyRefused(none, 2, 0, 0, 0, -2);
+            copyRefused(2, none, 0, 0, 0, -2);
+            copyRefused(none, none, 0, 0, 0, -2);
             copyRefused(none, 0, 0, 0, 1, -2);
             copyRefused(0, none, 0, 0, 1, -2);
             copyRefused(none, 1, 0, 0, 1, -2);
@@ -462,6 +466,7 @@ public final class ShelfTests {
         c.due("holds(0)", x.holds(0), -1);
         c.due("show(2, NONE) of a row", x.show(2, -1), 1);
         c.due("holds(2)", x.holds(2), -1);
+        c.due("element(2, 0)", x.element(2, 0), 0);
         c.due("show(1, NONE) of nothing", x.show(1, -1), 1);
         c.due("holds(1)", x.holds(1), -1);
         c.due("show(7, NONE)", x.show(7, -1), 1);

@@ -48,6 +48,7 @@ public final class ToldTests {
     private static void toldRefused(String name, Telling telling) {
         for (int s : new int[] {-1, 8, MIN, MAX}) {
             c.refused(name + "(" + s + ")", ToldTests::tooFew, x -> telling.answer(x, s), -2);
+            c.refused(name + "(" + s + ") of no steps", made("law 0 0"), x -> telling.answer(x, s), -2);
         }
         c.refused(name + "(1) of a law", ToldTests::tooFew, x -> telling.answer(x, 1), -3);
         c.refused(name + "(2) of nothing", ToldTests::tooFew, x -> telling.answer(x, 2), -4);
