@@ -1,7 +1,12 @@
 import java.lang.reflect.InvocationTargetException;
 import java.lang.reflect.Method;
 import java.util.ArrayList;
+import java.util.LinkedHashMap;
+import java.util.LinkedHashSet;
 import java.util.List;
+import java.util.Map;
+import java.util.Objects;
+import java.util.Set;
 import java.util.function.IntUnaryOperator;
 import java.util.function.Supplier;
 import java.util.function.ToLongFunction;
@@ -64,23 +69,42 @@ final class Checks {
 
     void refused(String call, Supplier<AnsweredByTheDrowned> made, ToLongFunction<AnsweredByTheDrowned> asked,
             int want, int counted) {
-        AnsweredByTheDrowned refusing = made.get();
-        AnsweredByTheDrowned untouched = made.get();
-        due(call, asked.applyAsLong(refusing), want);
-        for (int refusal = -2; refusal >= -6; refusal--) {
-            int more = refusal == counted ? 1 : 0;
-            due(call + ", refusals " + refusal, refusing.status(10 - refusal), untouched.status(10 - refusal) + more);
-        }
-        due("the state after " + call, stateOf(refusing), stateOf(untouched));
+        int before = made.get().status(10 - counted);
+        changes(call, made, asked, want, "refusals " + counted + " " + before + " -> " + (before + 1));
     }
 
     /** The call is answered so, no refusal is counted, and nothing is other than without the call. */
     void asks(String call, Supplier<AnsweredByTheDrowned> made, ToLongFunction<AnsweredByTheDrowned> asked, long want) {
+        changes(call, made, asked, want, "");
+    }
+
+    /**
+     * The call is answered so, and just what is listed becomes other than without it: "depth 2 -> 7", each change
+     * behind a semicolon, in the order in which stateOf tells them.
+     */
+    void changes(String call, Supplier<AnsweredByTheDrowned> made, ToLongFunction<AnsweredByTheDrowned> asked,
+            long want, String changed) {
         AnsweredByTheDrowned asking = made.get();
         AnsweredByTheDrowned untouched = made.get();
         due(call, asked.applyAsLong(asking), want);
-        due("refusals of " + call, refusals(asking), refusals(untouched));
-        due("the state after " + call, stateOf(asking), stateOf(untouched));
+        due("what becomes other by " + call, otherIn(stateOf(asking), stateOf(untouched)), changed);
+    }
+
+    /** Two objects are alike, whatever they went through. */
+    void alike(String what, AnsweredByTheDrowned x, AnsweredByTheDrowned y) {
+        due(what, otherIn(stateOf(x), stateOf(y)), "");
+    }
+
+    private static String otherIn(Map<String, Long> state, Map<String, Long> before) {
+        Set<String> names = new LinkedHashSet<>(before.keySet());
+        names.addAll(state.keySet());
+        List<String> other = new ArrayList<>();
+        for (String name : names) {
+            if (!Objects.equals(state.get(name), before.get(name))) {
+                other.add(name + " " + before.get(name) + " -> " + state.get(name));
+            }
+        }
+        return String.join("; ", other);
     }
 
     static int refusals(AnsweredByTheDrowned x) {
@@ -91,38 +115,47 @@ final class Checks {
         return many;
     }
 
-    /** What can be asked of an object: as it stands, with its TAPE read as a LAKE, and as it was kept. */
-    static String stateOf(AnsweredByTheDrowned x) {
-        List<Long> state = new ArrayList<>();
+    /** All that an object has, by name: what can be asked of it, what its TAPE is as a LAKE, and what it has kept. */
+    private static Map<String, Long> stateOf(AnsweredByTheDrowned x) {
+        Map<String, Long> state = new LinkedHashMap<>();
+        tellLake(x, "", state);
+        state.put("tape", (long) x.status(8));
+        for (int refusal = -2; refusal >= -6; refusal--) {
+            state.put("refusals " + refusal, (long) x.status(10 - refusal));
+        }
         for (int s = 0; s < 8; s++) {
-            for (int i = 0; x.holds(s) >= 0 && x.holds(s) < 10 && i < 40; i++) {
-                state.add(x.element(s, i));
+            state.put("shelf " + s, (long) x.holds(s));
+            for (int i = 0; i < 40; i++) {
+                // what an element is already may be put in again: so it's seen how many there are
+                long element = x.element(s, i);
+                if (x.set(s, i, element) != 1) {
+                    break;
+                }
+                state.put("element " + s + " " + i, element);
             }
         }
-        tell(x, state);
-        state.add((long) x.lake());
-        tell(x, state);
-        state.add((long) x.back());
-        tell(x, state);
-        return state.toString();
+        state.put("read", (long) x.lake());
+        if (x.back() == 1) {
+            tellLake(x, "kept ", state);
+        }
+        return state;
     }
 
-    private static void tell(AnsweredByTheDrowned x, List<Long> state) {
-        for (int what = 0; what <= 10; what++) {
-            state.add((long) x.status(what));
+    private static void tellLake(AnsweredByTheDrowned x, String when, Map<String, Long> state) {
+        String[] names = {"laws", "in force", "depth", "miss", "steps", "strokes", "people", "ages"};
+        for (int what = 0; what < names.length; what++) {
+            state.put(when + names[what], (long) x.status(what));
         }
+        state.put(when + "seed", (long) x.status(9));
         for (int law = 0; law < x.status(0); law++) {
-            state.add((long) x.lawOf(law, 0));
-            state.add((long) x.lawOf(law, 1));
+            state.put(when + "kind " + law, (long) x.lawOf(law, 0));
+            state.put(when + "a " + law, (long) x.lawOf(law, 1));
         }
         for (int t = 0; t < x.status(4); t++) {
-            state.add((long) x.step(t));
+            state.put(when + "step " + t, (long) x.step(t));
         }
         for (int person = 0; person < x.status(6); person++) {
-            state.add((long) x.age(person));
-        }
-        for (int s = 0; s < 8; s++) {
-            state.add((long) x.holds(s));
+            state.put(when + "age " + person, (long) x.age(person));
         }
     }
 

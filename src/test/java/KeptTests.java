@@ -24,8 +24,9 @@ public final class KeptTests {
         c.due("image()", x.image(), 1);
         statusIs("behind it", x, 6, 0, 2, 0, 40, 22, 10, 945, 0, -94435665, 8, -1, 0, 0, 0, 0, 1);
         c.due("back()", x.back(), 1);
+        y.law(0, 0);
         y.image();
-        c.due("the state behind it", Checks.stateOf(x), Checks.stateOf(y));
+        c.alike("what was kept, and what never changed", x, y);
     }
 
     private static void promise68TheLaterOne() {

@@ -5,7 +5,8 @@ import java.util.Set;
 /** Each promise of the document, 1 to 70, has tests of its own, named after it. */
 public final class PromiseTests {
     private static final Class<?>[] ALL = {ShelfTests.class, LakeTests.class, HeardTests.class, LawTests.class,
-        ToldTests.class, SoughtTests.class, PeopleTests.class, TruthTests.class, KeptTests.class};
+        ToldTests.class, SoughtTests.class, PeopleTests.class, TruthTests.class, KeptTests.class,
+        MidstTests.class, LongTests.class};
     private static final int LAST = 70;
 
     public static void main(String[] args) {

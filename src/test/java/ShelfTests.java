@@ -44,12 +44,14 @@ public final class ShelfTests {
     }
 
     private static void promise01ObjectsHaveNothingInCommon() {
-        AnsweredByTheDrowned other = new AnsweredByTheDrowned();
-        String ahead = Checks.stateOf(new AnsweredByTheDrowned());
+        AnsweredByTheDrowned ahead = new AnsweredByTheDrowned();
+        int[] due = {0, 0, 2, 0, 0, 0, 0, 0, 0, 1, 0, -1, 0, 0, 0, 0, 0};
         Checks.some().lake();
         Checks.full().image();
-        c.due("an object made ahead of others", Checks.stateOf(other), ahead);
-        c.due("an object made behind others", Checks.stateOf(new AnsweredByTheDrowned()), ahead);
+        for (int what = 0; what < due.length; what++) {
+            c.due("status(" + what + ") of one made ahead of others", ahead.status(what), due[what]);
+        }
+        c.alike("one made ahead of others, and one behind", ahead, new AnsweredByTheDrowned());
     }
 
     // ---- 2: row
