@@ -27,6 +27,8 @@ public final class FaceTests {
     private static final String BARRED = "throw throws try catch synchronized assert import package native instanceof"
             + " volatile transient strictfp super protected System Thread Object Class double float char";
 
+    private static final String LIBRARY = "Math.max Math.min Math.abs Integer.bitCount Long.bitCount";
+
     private static int wrong;
 
     private static void due(String what, Object got, Object want) {
@@ -121,6 +123,15 @@ public final class FaceTests {
         }
         for (String sign : List.of("->", "::", "@", "\"\" +", "+ \"\"")) {
             due(sign + " in the class's file", bare.contains(sign), false);
+        }
+        Matcher library = Pattern.compile("\\b(Math|Integer|Long|String|StringBuilder|Arrays)\\.\\w+").matcher(bare);
+        while (library.find()) {
+            due("whether it may use " + library.group(), Set.of(LIBRARY.split(" ")).contains(library.group()), true);
+        }
+        for (String line : bare.split("\n")) {
+            // what is made is made with the object: so no run of calls needs more room than another
+            boolean made = line.contains("new ");
+            due("whether a call makes anything: " + line, made && !line.matches(" +private final .* = new .*;"), false);
         }
         due("signs beyond 127 in the class's file", text.chars().anyMatch(sign -> sign > 127), false);
         String[] lines = text.split("\n");

@@ -14,7 +14,7 @@ import java.util.stream.Stream;
 
 /**
  * README.md: what it shows compiles and answers as it says, the command that it names is there, and it tells of each
- * class of tests. Run from the project's folder; the class's file is the argument.
+ * class of tests. Run from the project's folder.
  */
 public final class ReadmeTests {
     private static final Pattern BLOCK = Pattern.compile("```(\\w+)\n(.*?)```", Pattern.DOTALL);
@@ -28,7 +28,8 @@ public final class ReadmeTests {
         String readme = Files.readString(Path.of("README.md"));
         Path folder = Files.createTempDirectory("readme");
         try {
-            Files.copy(Path.of(args[0]), folder.resolve("AnsweredByTheDrowned.java"));
+            Path main = Path.of(args.length > 0 ? args[0] : "src/main/java/AnsweredByTheDrowned.java");
+            Files.copy(main, folder.resolve("AnsweredByTheDrowned.java"));
             snippets(blocks(readme, "java"), folder);
             programs(readme, folder);
         } finally {
