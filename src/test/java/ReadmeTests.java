@@ -101,7 +101,7 @@ public final class ReadmeTests {
 
     private static String said(String commands, Path folder) throws IOException, InterruptedException {
         Process shell = new ProcessBuilder("sh", "-ec", commands).directory(folder.toFile())
-                .redirectErrorStream(true).start();
+                .redirectError(ProcessBuilder.Redirect.INHERIT).start();
         shell.getOutputStream().close();
         String said = new String(shell.getInputStream().readAllBytes(), StandardCharsets.UTF_8);
         due("whether it ends in time: " + commands, shell.waitFor(60, TimeUnit.SECONDS), true);
